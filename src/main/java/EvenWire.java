@@ -201,7 +201,6 @@ public final class EvenWire {
         if (wire.size() == 0) {
             return NOT;
         }
-        weights.setAll(0);
         weights.raise(wire, most);
         weights.settle(wire, paths, m, n);
         return weights.sum();
@@ -560,7 +559,7 @@ public final class EvenWire {
             return refine();
         }
 
-        int states() {
+        int made() {
             return groups;
         }
 
@@ -679,7 +678,7 @@ public final class EvenWire {
         private int size = 0;
 
         void take(Maker maker) {
-            size = Math.min(maker.states(), MOST_STATES);
+            size = Math.min(maker.made(), MOST_STATES);
             maker.fill(next);
             Arrays.fill(parent, NONE);
             Arrays.fill(depth, 0);

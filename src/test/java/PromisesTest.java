@@ -73,6 +73,30 @@ public final class PromisesTest {
         return x;
     }
 
+    /** 40 STATES; by 6 bits from none of the even LEANS enough lead on, so a CODE of 2 by 6 begins at 1. */
+    private static EvenWire leadByOne() {
+        EvenWire x = new EvenWire();
+        x.runs(0, 6);
+        x.lean(4);
+        x.word(15, 5);
+        x.word(6, 4);
+        x.word(2, 3);
+        x.build();
+        return x;
+    }
+
+    private static EvenWire hundred() {
+        EvenWire x = new EvenWire();
+        x.runs(0, 2);
+        x.lean(5);
+        x.word(11, 6);
+        x.word(9, 6);
+        x.word(18, 6);
+        x.word(7, 5);
+        x.build();
+        return x;
+    }
+
     /** No ROW is GOOD. */
     private static EvenWire dumb() {
         EvenWire x = new EvenWire();
@@ -266,6 +290,12 @@ public final class PromisesTest {
         Due.is("100 STATES", z.build(), 100);
         Due.is("go(99, 0) is one", z.go(99, 0) < 100 ? 1 : 0, 1);
         Due.is("go(100, 0)", z.go(100, 0), -2);
+        EvenWire u = new EvenWire();
+        u.runs(0, 7);
+        u.lean(5);
+        u.word(17, 6);
+        u.word(42, 6);
+        Due.is("101 STATES", u.build(), -4);
     }
 
     private static void buildFull() {
@@ -371,14 +401,8 @@ public final class PromisesTest {
         EvenWire y = even();
         Due.is("first(4, 0)", y.first(4, 0), 2);
         Due.is("first(4, 1)", y.first(4, 1), 3);
-        EvenWire z = new EvenWire();
-        z.runs(0, 2);
-        z.lean(5);
-        z.word(11, 6);
-        z.word(9, 6);
-        z.word(18, 6);
-        z.word(7, 5);
-        Due.is("100 STATES", z.build(), 100);
+        EvenWire z = hundred();
+        Due.is("100 STATES", z.states(), 100);
         int longest = 0;
         for (int state = 0; state < 100; state++) {
             int n = (int) z.first(state, 0);
@@ -520,6 +544,7 @@ public final class PromisesTest {
         v.build();
         Due.is("no told word", v.mark(3), 2);
         Due.is("10", v.marked(), 2);
+        markByTrying();
         int[] wrong = {0, -1, 13, MOST, LEAST};
         for (int most : wrong) {
             Due.is("mark(" + most + ")", x.mark(most), -2);
@@ -527,6 +552,37 @@ public final class PromisesTest {
         }
         Due.is("mark(1) without STATES", dumb().mark(1), -3);
         Due.is("mark(12) ahead of build()", new EvenWire().mark(12), -3);
+    }
+
+    /** On wires of 40 and 100 STATES each word is walked from each STATE, until one leads nowhere from all. */
+    private static void markByTrying() {
+        EvenWire[] wires = {leadByOne(), hundred()};
+        for (EvenWire x : wires) {
+            int length = 0;
+            int word = 0;
+            boolean there = true;
+            while (there) {
+                word = length == 0 || word == (1 << length) - 1 ? 0 : word + 1;
+                length += word == 0 ? 1 : 0;
+                there = false;
+                for (int state = 0; state < x.states(); state++) {
+                    there |= x.walk(state, word, length) >= 0;
+                }
+            }
+            Due.is("one bit less", x.mark(length - 1), -1);
+            Due.is("the shortest", x.mark(length), length);
+            Due.is("the least", x.marked(), word);
+            Due.is("no longer one", x.mark(12), length);
+            Due.is("one bit less, behind it", x.mark(length - 1), -1);
+            Due.is("and it stays", x.marked(), word);
+        }
+        EvenWire y = hundred();
+        y.mark(12);
+        y.clearWords();
+        y.lean(1);
+        y.build();
+        Due.is("anew behind build()", y.mark(12), 3);
+        Due.is("000", y.marked(), 0);
     }
 
     private static void marked() {
@@ -700,6 +756,13 @@ public final class PromisesTest {
         Due.is("code(1, 1)", y.code(1, 1), 0);
         Due.is("code(1, 2)", y.code(1, 2), 5);
         Due.is("code(8, 12)", y.code(8, 12), 5);
+        EvenWire z = hundred();
+        Due.is("all of 100", z.code(1, 12), 100);
+        z.clearWords();
+        z.lean(2);
+        z.runs(0, -1);
+        z.build();
+        Due.is("a lesser WIRE behind a greater", z.code(1, 2), 5);
         Due.is("code(8, 8)", free().code(8, 8), 1);
         Due.is("code(8, 7)", free().code(8, 7), 0);
         Due.is("without STATES", dumb().code(1, 1), -3);
@@ -906,6 +969,16 @@ public final class PromisesTest {
         x.say(0, 1);
         Due.is("1 and 150 WORDS of 4", x.write(), -4);
         Due.is("the PLATE stays", x.count(1), 597);
+        EvenWire z = leadByOne();
+        Due.is("code(2, 6)", z.code(2, 6), 7);
+        Due.is("HOME", z.count(6), 2);
+        z.say(3, 2);
+        Due.is("a LEAD of 1", z.write(), 7);
+        Due.is("plate(0)", z.plate(0), 1);
+        Due.is("a WORD at HOME", z.walk(0, 64 + z.wordOf(2, 3), 7), z.walk(2, z.wordOf(2, 3), 6));
+        Due.is("tell()", z.tell(), 2);
+        z.spoil(0);
+        Due.is("another LEAD", z.tell(), -100);
         EvenWire y = even();
         y.code(1, 4);
         Due.is("HOME", y.count(6), 0);
