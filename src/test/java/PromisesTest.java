@@ -454,10 +454,11 @@ public final class PromisesTest {
         Due.is("leads nowhere", x.number(2, 1L << 59, 60), -1);
         Due.is("the last of 60", free().number(0, (1L << 60) - 1, 60), (1L << 60) - 1);
         for (int state = 0; state < 5; state++) {
+            EvenWire y = spaced();
             long less = 0;
-            for (int row = 0; row < 1 << 9; row++) {
-                boolean leads = x.walk(state, row, 9) >= 0;
-                Due.is("number(" + state + ", " + row + ", 9)", x.number(state, row, 9), leads ? less : -1);
+            for (int row = 0; row < 1 << 7; row++) {
+                boolean leads = y.walk(state, row, 7) >= 0;
+                Due.is("number(" + state + ", " + row + ", 7)", y.number(state, row, 7), leads ? less : -1);
                 less += leads ? 1 : 0;
             }
         }
@@ -490,14 +491,11 @@ public final class PromisesTest {
     private static void ways() {
         Due.part("promise 15");
         EvenWire x = spaced();
+        SlowWire s = Wires.slow(1, 3, -1);
         for (int i = 0; i < 5; i++) {
             for (int j = 0; j < 5; j++) {
-                for (int n = 0; n <= 12; n += 3) {
-                    int rows = 0;
-                    for (int row = 0; row < 1 << n; row++) {
-                        rows += x.walk(i, row, n) == j ? 1 : 0;
-                    }
-                    Due.is("ways(" + i + ", " + j + ", " + n + ")", x.ways(i, j, n), rows);
+                for (int n = 0; n <= 12; n++) {
+                    Due.is("ways(" + i + ", " + j + ", " + n + ")", x.ways(i, j, n), s.waysOf(n)[i][j]);
                 }
             }
         }
@@ -554,27 +552,19 @@ public final class PromisesTest {
         Due.is("mark(12) ahead of build()", new EvenWire().mark(12), -3);
     }
 
-    /** On wires of 40 and 100 STATES each word is walked from each STATE, until one leads nowhere from all. */
+    /** On wires of 40 and 100 STATES the second writing walks each word from each STATE, until one leads nowhere from all. */
     private static void markByTrying() {
         EvenWire[] wires = {leadByOne(), hundred()};
-        for (EvenWire x : wires) {
-            int length = 0;
-            int word = 0;
-            boolean there = true;
-            while (there) {
-                word = length == 0 || word == (1 << length) - 1 ? 0 : word + 1;
-                length += word == 0 ? 1 : 0;
-                there = false;
-                for (int state = 0; state < x.states(); state++) {
-                    there |= x.walk(state, word, length) >= 0;
-                }
-            }
+        SlowWire[] slow = {Wires.slow(0, 6, 4, "01111", "0110", "010"), Wires.slow(0, 2, 5, "001011", "001001", "010010", "00111")};
+        for (int i = 0; i < wires.length; i++) {
+            EvenWire x = wires[i];
+            int length = slow[i].mark(12);
             Due.is("one bit less", x.mark(length - 1), -1);
             Due.is("the shortest", x.mark(length), length);
-            Due.is("the least", x.marked(), word);
+            Due.is("the least", x.marked(), slow[i].marked);
             Due.is("no longer one", x.mark(12), length);
             Due.is("one bit less, behind it", x.mark(length - 1), -1);
-            Due.is("and it stays", x.marked(), word);
+            Due.is("and it stays", x.marked(), slow[i].marked);
         }
         EvenWire y = hundred();
         y.mark(12);
@@ -1243,14 +1233,14 @@ public final class PromisesTest {
         digestIs(new EvenWire());
         digestIs(even());
         EvenWire y = free();
-        for (int i = 0; i < 10; i++) {
-            y.put(0x123456789ABCDEL, 60);
-            y.say(i, 24);
+        for (int i = 0; i < 4; i++) {
+            y.put(45, 7);
+            y.say(i, 5);
             digestIs(y);
         }
         long was = y.digest();
         Due.is("asking changes nothing", y.digest(), was);
-        y.spoil(599);
+        y.spoil(27);
         Due.holds("another last bit is another digest", y.digest() != was);
     }
 
