@@ -691,7 +691,7 @@ public final class EvenWire {
 
         private void adopt(int state, int bit) {
             int child = step(state, bit);
-            if (child > 0 && parent[child] == NONE) {
+            if (child != 0 && has(child) && parent[child] == NONE) {
                 parent[child] = state;
                 lastBit[child] = bit;
                 depth[child] = depth[state] + 1;

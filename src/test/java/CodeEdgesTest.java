@@ -264,6 +264,12 @@ public final class CodeEdgesTest {
             Due.is("weight(" + state + ")", x.weight(state), 0);
         }
         Due.is("judge(1, 1)", x.judge(1, 1), 0);
+        // 2 less a little is less than 2: the WEIGHTS come down by little steps, but all of the way
+        for (int k = 1; k <= 7; k++) {
+            EvenWire slow = Wires.built(0, k, -1);
+            Due.is("RUNS 0, " + k + " can't bear 1 by 1", slow.best(1, 1, 200), 0);
+            Due.is("all are 0", slow.judge(0, 1), 0);
+        }
         EvenWire y = Wires.leaning(1);
         // no WEIGHT of 1 shows 1 by 1; by 2 bits all of them show it, and none shows 2
         Due.is("best(1, 1, 1)", y.best(1, 1, 1), 0);

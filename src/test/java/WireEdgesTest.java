@@ -45,6 +45,7 @@ public final class WireEdgesTest {
         markOfMostBits();
         markTakesTheLeast();
         markBehindStateSixtyFour();
+        markOfOneWireBehindAnother();
         markedWithoutAndBehindBuild();
         markedStaysBehindNone();
         markedStaysBehindFull();
@@ -186,8 +187,22 @@ public final class WireEdgesTest {
         Due.is("the last one", x.weigh(99, 7), 0);
         Due.is("the last one", x.weight(99), 7);
         Due.is("none behind it", x.go(100, 0), -2);
-        EvenWire y = Wires.told(0, 7, 5, "0111", "101001", "011010");
-        Due.is("another build()", y.build(), 100);
+        hundredAsWritten(0, 7, "0111", "101001", "011010");
+        hundredAsWritten(0, 2, "001011", "001001", "010010", "00111");
+        hundredAsWritten(0, -1, "1000", "110101", "010100", "100110");
+        // here a STATE GOES to 99 by 1, and the next one to none
+        hundredAsWritten(0, 4, "10100", "100010", "001101");
+    }
+
+    private static void hundredAsWritten(int d, int k, String... words) {
+        EvenWire x = Wires.told(d, k, 5, words);
+        SlowWire s = Wires.slow(d, k, 5, words);
+        Due.is("build()", x.build(), 100);
+        Due.is("in the second writing", s.states(), 100);
+        for (int state = 0; state < s.states(); state++) {
+            Due.is("go(" + state + ", 0)", x.go(state, 0), s.goes.get(state)[0]);
+            Due.is("go(" + state + ", 1)", x.go(state, 1), s.goes.get(state)[1]);
+        }
     }
 
     private static void buildOfMoreThanHundred() {
@@ -635,6 +650,31 @@ public final class WireEdgesTest {
         EvenWire y = Wires.built(0, 7, 4, words[0]);
         Due.is("the told word of 5 bits", y.mark(12), 5);
         Due.is("00110", y.marked(), 6);
+    }
+
+    /** What was found on one WIRE says nothing of the next one, be it greater or lesser. */
+    private static void markOfOneWireBehindAnother() {
+        Due.part("promise 16: behind another build()");
+        EvenWire x = new EvenWire();
+        SlowWire s = new SlowWire();
+        int[] leans = {4, 1, 5, 2, 4, 3, -1, 5};
+        String[][] words = {{"00110", "001001", "010001", "100100"}, {}, {"001011", "001001", "010010", "00111"}, {"111"},
+            {"01001", "10001", "000101", "001110"}, {"0000", "1111"}, {"11", "000"}, {"101101"}};
+        for (int i = 0; i < leans.length; i++) {
+            x.lean(leans[i]);
+            s.lean = leans[i];
+            x.clearWords();
+            s.words.clear();
+            for (String word : words[i]) {
+                x.word((int) Wires.bits(word), word.length());
+                s.words.add(word);
+            }
+            Due.is("build() no. " + (i + 1), x.build(), s.build());
+            for (int most = 3; most <= 12; most += 3) {
+                Due.is("WIRE no. " + (i + 1) + ", mark(" + most + ")", x.mark(most), s.mark(most));
+                Due.is("WIRE no. " + (i + 1) + ", marked()", x.marked(), s.marked);
+            }
+        }
     }
 
     private static void markedWithoutAndBehindBuild() {
